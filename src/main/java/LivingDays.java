@@ -981,7 +981,8 @@ public final class LivingDays {
 
         int lastOfStay(int first) {
             int last = first;
-            for (int day = first + 1; day < DAYS && landOn(day) == landOn(first); day++) {
+            int land = landOn(first);
+            for (int day = first + 1; day < DAYS && lands[day] == land; day++) {
                 last = day;
             }
             return last;
@@ -1463,10 +1464,10 @@ public final class LivingDays {
             countInto(centreCounts, state.centres);
             Arrays.fill(homeCounts, 0);
             for (int day = 0; day < DAYS; day++) {
-                for (int land = 0; land < LANDS && state.homes[day] != 0; land++) {
-                    if (state.hasHome(land, day)) {
-                        homeCounts[spot(land, yearOf(day))]++;
-                    }
+                int year = day / YEAR_DAYS;
+                int bits = state.homes[day];
+                for (int land = 0; land < LANDS && bits != 0; land++) {
+                    homeCounts[land * YEARS + year] += (bits >> land) & 1;
                 }
             }
         }
@@ -1475,8 +1476,8 @@ public final class LivingDays {
             Arrays.fill(counts, 0);
             for (int day = 0; day < DAYS; day++) {
                 int land = places.lands[day];
-                if (isLand(land)) {
-                    counts[spot(land, yearOf(day))]++;
+                if (land >= 0 && land < LANDS) {
+                    counts[land * YEARS + day / YEAR_DAYS]++;
                 }
             }
         }
