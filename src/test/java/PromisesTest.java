@@ -424,6 +424,10 @@ public final class PromisesTest {
         due("as many as it lets", x.entered(0, 0, 1), 0);
         due("as many as it lets", x.entered(0, 0, 2), -2);
         due("another", x.entered(1, 0, 0), 1);
+        lay(x, "c359,c719,c721");
+        due("on the last day of the year", x.entered(2, 0, 0), 1);
+        due("on the last day of the year", x.entered(2, 1, 0), 1);
+        due("behind it", x.entered(2, 2, 0), 1);
         due("none", x.entered(1, 2, 0), 0);
         due("what 3", x.entered(0, 0, 3), -1);
         due("what -1", x.entered(0, 0, -1), -1);
@@ -516,6 +520,12 @@ public final class PromisesTest {
         }
         due("none there", x.days(2, 0, 0), 0);
         due("none there", x.days(2, 0, 4), 0);
+        x.stay(3, 350, 359);
+        x.home(3, 350, 359, true);
+        x.centre(3, 350, 359);
+        for (int what = 0; what < 5; what++) {
+            due("to the last day of the year", x.days(3, 0, what), what == 3 ? 1 : 10);
+        }
         due("what 5", x.days(0, 0, 5), -1);
         due("what -1", x.days(0, 0, -1), -1);
         due("year 3", x.days(0, 3, 0), -1);
@@ -719,6 +729,10 @@ public final class PromisesTest {
         due("trade", x.trade(0, 1, 5, 24), 15);
         dueText("trade", x, "a0..4,b5..9,a10..19,c20..29");
         due("none of both", x.trade(3, 4, 0, 1079), 0);
+        due("the last day, too", x.trade(2, 5, 29, 29), 1);
+        due("and back", x.trade(2, 5, 0, 29), 10);
+        due("and back", x.trade(2, 5, 20, 28), 9);
+        dueText("the last day, too", x, "a0..4,b5..9,a10..19,c20..29");
         due("a is b", x.trade(1, 1, 0, 1), -1);
         due("nowhere", x.trade(-1, 1, 0, 1), -1);
         due("nowhere", x.trade(1, -1, 0, 1), -1);
@@ -750,6 +764,8 @@ public final class PromisesTest {
         due("a to b", x.routes(0, 1, 0), 2);
         due("b to a", x.routes(1, 0, 0), 1);
         due("over the turn", x.routes(0, 1, 1), 1);
+        lay(x, "c718,d719");
+        due("on the last day of the year", x.routes(2, 3, 1), 1);
         due("to nowhere", x.routes(1, -1, 0), 1);
         due("from nowhere", x.routes(-1, 0, 0), 1);
         due("day 0 has none ahead", x.routes(-1, 0, 0), 1);
@@ -771,6 +787,13 @@ public final class PromisesTest {
         x.stay(0, 0, 99);
         due("it claims as it is", x.latest(0, 0), 359);
         due("another year", x.latest(0, 1), 620);
+        x.stay(-1, 0, 359);
+        lay(x, "a0..49,a300..309");
+        x.rule(0, 0, 111);
+        due("a day that is there already is one", x.latest(0, 0), 299);
+        x.rule(0, 0, 360);
+        due("from the first day on which one is not there", x.latest(0, 0), 50);
+        due("the first day of year 2", x.latest(0, 2), 720);
         x.rule(0, 0, 360);
         x.rule(1, 2, 10);
         x.home(1, 0, 9, true);
@@ -907,6 +930,14 @@ public final class PromisesTest {
         setOrder(x, 1, "n");
         due("its order tells nobody", x.answers(1, 0, 0), -2);
         due("another year", x.answers(0, 1, 1), -2);
+        x.home(4, 720, 729, true);
+        x.centre(5, 720, 729);
+        x.stay(3, 720, 729);
+        due("by homes of the year", x.answers(3, 4, 2), 4);
+        due("by homes of the year", x.answers(4, 3, 2), 4);
+        due("by centres of the year", x.answers(3, 5, 2), 5);
+        due("by centres of the year", x.answers(5, 3, 2), 5);
+        due("by days of the year", x.answers(2, 3, 2), 3);
         due("a is b", x.answers(1, 1, 0), -1);
         due("land 6", x.answers(6, 0, 0), -1);
         due("land -1", x.answers(0, -1, 0), -1);
@@ -991,6 +1022,16 @@ public final class PromisesTest {
         x.home(1, 1079, 1079, true);
         x.rule(1, 0, 1);
         due("from a day", x.split(1, 2, 0), 720);
+        LivingDays y = new LivingDays();
+        lay(y, "a100..199,a360..369,a800..899");
+        y.rule(0, 0, 50);
+        due("it claims in no year behind", y.split(0, 0, 1), 199);
+        due("it claimed in no year ahead", y.split(0, 2, 0), 800);
+        due("there is no year behind", y.split(0, 2, 1), 899);
+        y.rule(0, 0, 10);
+        due("it claims in all", y.split(0, 1, 0), 360);
+        due("it claims in all", y.split(0, 1, 1), 719);
+        due("the days of it", y.split(0, 1, 2), 10);
         due("till the last day", x.split(1, 2, 1), 1079);
         due("what 3 comes first", x.split(0, 2, 3), -1);
         due("what -1", x.split(0, 0, -1), -1);
@@ -1054,6 +1095,8 @@ public final class PromisesTest {
         due("days ahead leave the window", x.mustLeave(0, 200), 290);
         due("days fall out by and by", x.mustLeave(0, 135), 225);
         due("too late to overstay", x.mustLeave(0, 1000), -2);
+        due("just too late to overstay", x.mustLeave(0, 990), -2);
+        due("on the last day", x.mustLeave(0, 989), 1079);
         x.window(0, 5, 0);
         due("at once", x.mustLeave(0, 1079), 1079);
         x.window(0, 5, 5);
@@ -1091,6 +1134,8 @@ public final class PromisesTest {
         due("over the turn of the year", x.claimBy(0, 300), 459);
         due("too late", x.claimBy(0, 981), -2);
         due("just in time", x.claimBy(0, 980), 1079);
+        x.rule(5, 0, 100);
+        due("too late, of the last land", x.claimBy(5, 981), -2);
         x.stay(0, 340, 359);
         due("days behind stay as they are", x.claimBy(0, 0), 79);
         x.stay(0, 0, 99);
@@ -1230,6 +1275,8 @@ public final class PromisesTest {
         due("owed: b's in c, that has no tax", x.instead(1, 2, 0, 1079, 3), 360 * 10 + 20 * 10);
         due("overstays", x.instead(0, 1, 0, 1079, 4), 40);
         due("overstays as it is", x.instead(3, 4, 0, 1079, 4), 0);
+        due("the last day, too", x.instead(0, 1, 0, 39, 4), 30);
+        due("one fewer", x.instead(0, 1, 0, 38, 4), 29);
         due("a nowhere", x.instead(-1, 0, 0, 1, 0), -1);
         due("a is b", x.instead(1, 1, 0, 1, 0), -1);
         due("land 6", x.instead(0, 6, 0, 1, 0), -1);
