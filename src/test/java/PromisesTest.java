@@ -76,46 +76,8 @@ public final class PromisesTest {
         CHECKS.due(call, got, want);
     }
 
-    private static void feedText(LivingDays x, String text) {
-        for (int k = 0; k < text.length(); k += 20) {
-            int[] w = new int[5];
-            for (int j = 0; j < 20; j++) {
-                w[j / 4] = w[j / 4] << 8 | (k + j < text.length() ? text.charAt(k + j) : '~');
-            }
-            x.feed(w[0], w[1], w[2], w[3], w[4]);
-        }
-    }
-
-    private static int lay(LivingDays x, String text) {
-        feedText(x, text);
-        return x.calendar(text.length());
-    }
-
-    private static int plan(LivingDays x, String text, int what) {
-        feedText(x, text);
-        return x.trip(text.length(), what);
-    }
-
-    private static boolean setOrder(LivingDays x, int land, String row) {
-        feedText(x, row);
-        return x.order(land, row.length());
-    }
-
-    private static boolean setTreaty(LivingDays x, int a, int b, String row) {
-        feedText(x, row);
-        return x.treaty(a, b, row.length());
-    }
-
-    private static String text(LivingDays x) {
-        StringBuilder text = new StringBuilder();
-        for (int k = 0; k < x.letter(-1); k++) {
-            text.append((char) x.letter(k));
-        }
-        return text.toString();
-    }
-
     private static void dueText(String what, LivingDays x, String want) {
-        String got = text(x);
+        String got = Texts.read(x);
         if (!got.equals(want)) {
             CHECKS.fault(what + ": the calendar is \"" + got + "\", due is \"" + want + "\"");
         }
@@ -164,7 +126,7 @@ public final class PromisesTest {
     private static void calendar() {
         LivingDays x = new LivingDays();
         due("no tape", x.calendar(1), -1);
-        feedText(x, "a0..9,b5");
+        Texts.feed(x, "a0..9,b5");
         due("n 0", x.calendar(0), -1);
         due("n 161", x.calendar(161), -1);
         due("n above the tape", x.calendar(21), -1);
@@ -174,20 +136,20 @@ public final class PromisesTest {
         due("stays", x.calendar(8), 2);
         due("tape is empty", x.count(4), 0);
         dueText("a later stay counts", x, "a0..4,b5,a6..9");
-        due("nowhere", lay(x, "-3..6"), 1);
+        due("nowhere", Texts.lay(x, "-3..6"), 1);
         dueText("nowhere lies over", x, "a0..2,a7..9");
-        due("first and last day", lay(x, "f1079,e0000"), 2);
+        due("first and last day", Texts.lay(x, "f1079,e0000"), 2);
         dueText("first and last", x, "e0,a1..2,a7..9,f1079");
-        due("blanks", lay(x, "  b 20 .. 0030 ,c  40  "), 2);
+        due("blanks", Texts.lay(x, "  b 20 .. 0030 ,c  40  "), 2);
         dueText("blanks are nothing", x, "e0,a1..2,a7..9,b20..30,c40,f1079");
-        due("one day in two points", lay(x, "d50..50"), 1);
+        due("one day in two points", Texts.lay(x, "d50..50"), 1);
         due("at 50", x.at(50, 0), 3);
         StringBuilder most = new StringBuilder("a0");
         for (int k = 1; k < 53; k++) {
             most.append(k % 2 == 0 ? ",a" : ",b").append(k % 10);
         }
         most.append("  ");
-        due("160 bytes, 53 stays", lay(x, most.substring(0, 160)), 53);
+        due("160 bytes, 53 stays", Texts.lay(x, most.substring(0, 160)), 53);
     }
 
     private static void calendarFaults() {
@@ -202,12 +164,12 @@ public final class PromisesTest {
         for (int k = 1; k < texts.length; k++) {
             LivingDays x = new LivingDays();
             x.stay(2, 700, 800);
-            due("the text \"" + texts[k] + "\"", lay(x, texts[k]), answers[k]);
+            due("the text \"" + texts[k] + "\"", Texts.lay(x, texts[k]), answers[k]);
             due("tape is empty behind it", x.count(4), 0);
             if (answers[k] < 0) {
                 dueText("all stays behind \"" + texts[k] + "\"", x, "c700..800");
             }
-            due("a trip of \"" + texts[k] + "\"", plan(x, texts[k], 4), answers[k] < 0 ? answers[k] : 0);
+            due("a trip of \"" + texts[k] + "\"", Texts.plan(x, texts[k], 4), answers[k] < 0 ? answers[k] : 0);
         }
     }
 
@@ -324,9 +286,7 @@ public final class PromisesTest {
         dueText("text", x, "a0,b1..9,c99..100,f999..1079");
         due("how many", x.letter(-1), 28);
         due("behind the last", x.letter(28), -2);
-        for (int day = 0; day < 1080; day++) {
-            x.stay(day % 2, day, day);
-        }
+        Texts.alternate(x);
         due("the longest text", x.letter(-1), 10 * 3 + 90 * 4 + 900 * 5 + 80 * 6 - 1);
         due("its last byte", x.letter(5368), '9');
     }
@@ -372,17 +332,17 @@ public final class PromisesTest {
         due("none of none", x.order(0, 0), true);
         due("empty order", x.told(0, 7), 0);
         due("no letter", x.told(0, 8), -2);
-        due("order", setOrder(x, 0, "ndch"), true);
+        due("order", Texts.setOrder(x, 0, "ndch"), true);
         for (int k = 0; k < 4; k++) {
             due("letter", x.told(0, 8 + k), 3 - k);
         }
         due("tape is empty", x.count(4), 0);
-        due("others", setOrder(x, 0, "hx"), false);
+        due("others", Texts.setOrder(x, 0, "hx"), false);
         due("tape is empty", x.count(4), 0);
-        due("great letter", setOrder(x, 0, "H"), false);
-        due("twice one", setOrder(x, 0, "hch"), false);
+        due("great letter", Texts.setOrder(x, 0, "H"), false);
+        due("twice one", Texts.setOrder(x, 0, "hch"), false);
         due("order stays", x.told(0, 7), 4);
-        feedText(x, "hc");
+        Texts.feed(x, "hc");
         due("n 5", x.order(0, 5), false);
         due("n -1", x.order(0, -1), false);
         due("land 6", x.order(6, 2), false);
@@ -390,7 +350,7 @@ public final class PromisesTest {
         due("tape stays", x.count(4), 20);
         due("n 0 empties", x.order(1, 0), true);
         due("tape is empty", x.count(4), 0);
-        feedText(x, "cxh");
+        Texts.feed(x, "cxh");
         due("the first alone", x.order(2, 1), true);
         due("its letter", x.told(2, 8), 1);
         due("how many", x.told(2, 7), 1);
@@ -410,7 +370,7 @@ public final class PromisesTest {
 
     private static void entered() {
         LivingDays x = new LivingDays();
-        lay(x, "a0..9,a20..29,b30..39,a40..41,a350..370,a380");
+        Texts.lay(x, "a0..9,a20..29,b30..39,a40..41,a350..370,a380");
         due("how many", x.entered(0, 0, 0), 4);
         due("not over the turn of the year", x.entered(0, 1, 0), 1);
         due("any number", x.entered(0, 0, 1), 0);
@@ -424,7 +384,7 @@ public final class PromisesTest {
         due("as many as it lets", x.entered(0, 0, 1), 0);
         due("as many as it lets", x.entered(0, 0, 2), -2);
         due("another", x.entered(1, 0, 0), 1);
-        lay(x, "c359,c719,c721");
+        Texts.lay(x, "c359,c719,c721");
         due("on the last day of the year", x.entered(2, 0, 0), 1);
         due("on the last day of the year", x.entered(2, 1, 0), 1);
         due("behind it", x.entered(2, 2, 0), 1);
@@ -438,20 +398,20 @@ public final class PromisesTest {
 
     private static void treaty() {
         LivingDays x = new LivingDays();
-        lay(x, "a0..9,b20..49");
+        Texts.lay(x, "a0..9,b20..49");
         x.home(0, 0, 5, true);
         due("by orders", x.answers(0, 1, 0), 0);
-        due("treaty", setTreaty(x, 1, 0, "d"), true);
+        due("treaty", Texts.setTreaty(x, 1, 0, "d"), true);
         due("both by it", x.answers(0, 1, 0), 1);
         due("both by it", x.answers(1, 0, 0), 1);
-        due("in its place", setTreaty(x, 0, 1, "h"), true);
+        due("in its place", Texts.setTreaty(x, 0, 1, "h"), true);
         due("by the new", x.answers(1, 0, 0), 0);
-        due("twice one", setTreaty(x, 0, 1, "dd"), false);
+        due("twice one", Texts.setTreaty(x, 0, 1, "dd"), false);
         due("tape is empty", x.count(4), 0);
         due("it stays", x.answers(1, 0, 0), 0);
         due("none of none", x.treaty(0, 1, 0), true);
         due("nobody", x.answers(0, 1, 0), -2);
-        feedText(x, "d");
+        Texts.feed(x, "d");
         due("a is b", x.treaty(1, 1, 1), false);
         due("land 6", x.treaty(1, 6, 1), false);
         due("land -1", x.treaty(-1, 1, 1), false);
@@ -463,10 +423,10 @@ public final class PromisesTest {
 
     private static void without() {
         LivingDays x = new LivingDays();
-        lay(x, "a0..9,b20..49");
+        Texts.lay(x, "a0..9,b20..49");
         x.home(0, 0, 5, true);
         due("there is none", x.without(0, 1), false);
-        setTreaty(x, 0, 1, "");
+        Texts.setTreaty(x, 0, 1, "");
         due("nobody", x.answers(0, 1, 0), -2);
         due("others", x.without(0, 2), false);
         due("gone", x.without(1, 0), true);
@@ -496,7 +456,7 @@ public final class PromisesTest {
         x.rule(1, 2, 13);
         x.tax(1, 14);
         x.nation(1, true);
-        setOrder(x, 1, "nd");
+        Texts.setOrder(x, 1, "nd");
         int[] answers = {30, 20, 11, 12, 13, 14, 1, 2, 3, 2, -2, -2, -1};
         for (int what = 0; what < answers.length; what++) {
             due("told " + what, x.told(1, what), answers[what]);
@@ -508,7 +468,7 @@ public final class PromisesTest {
 
     private static void days() {
         LivingDays x = new LivingDays();
-        lay(x, "a10..19,a30..34,b35,a350..400,a719..720");
+        Texts.lay(x, "a10..19,a30..34,b35,a350..400,a719..720");
         x.home(0, 0, 99, true);
         x.home(0, 360, 360, true);
         x.centre(0, 355, 364);
@@ -536,7 +496,7 @@ public final class PromisesTest {
 
     private static void month() {
         LivingDays x = new LivingDays();
-        lay(x, "a29..60,a1050..1078");
+        Texts.lay(x, "a29..60,a1050..1078");
         due("the last day of it", x.month(0, 0), 1);
         due("all of it", x.month(0, 1), 30);
         due("the first day of it", x.month(0, 2), 1);
@@ -550,7 +510,7 @@ public final class PromisesTest {
 
     private static void within() {
         LivingDays x = new LivingDays();
-        lay(x, "a0..9,a20..29");
+        Texts.lay(x, "a0..9,a20..29");
         due("one day", x.within(0, 9, 1), 1);
         due("the day is not there", x.within(0, 10, 1), 0);
         due("ten that end with it", x.within(0, 24, 10), 5);
@@ -568,7 +528,7 @@ public final class PromisesTest {
 
     private static void overstays() {
         LivingDays x = new LivingDays();
-        lay(x, "a0..9,a12..14,b30..40");
+        Texts.lay(x, "a0..9,a12..14,b30..40");
         due("no window", x.overstays(0, 0, 1079, 0), 0);
         x.window(0, 10, 8);
         // days 8 (9), 9 (10), 12 (8: 3..9 and 12), 13 (8), 14 (8)
@@ -596,7 +556,7 @@ public final class PromisesTest {
 
     private static void nth() {
         LivingDays x = new LivingDays();
-        lay(x, "b0,a1..2,b3..4,a350..370,a1079");
+        Texts.lay(x, "b0,a1..2,b3..4,a350..370,a1079");
         int[][] answers = {{1, 2, 2}, {350, 370, 21}, {1079, 1079, 1}, {-2, -2, -2}};
         for (int k = 0; k < 4; k++) {
             for (int what = 0; what < 3; what++) {
@@ -619,7 +579,7 @@ public final class PromisesTest {
         x.stay(0, 0, 1079);
         due("none", x.away(0, 0), 0);
         due("none", x.away(0, 1), -2);
-        lay(x, "b100..109,-110..119,a120..129,c130..149,b1060..1079");
+        Texts.lay(x, "b100..109,-110..119,a120..129,c130..149,b1060..1079");
         due("the longest", x.away(0, 0), 20);
         due("the first such", x.away(0, 1), 100);
         due("what 2", x.away(0, 2), -1);
@@ -630,7 +590,7 @@ public final class PromisesTest {
 
     private static void travels() {
         LivingDays x = new LivingDays();
-        lay(x, "a0..9,a20,a30..31,a359..360,a1070..1079");
+        Texts.lay(x, "a0..9,a20,a30..31,a359..360,a1070..1079");
         due("both ends, a lone one once", x.travels(0, 0), 1 + 1 + 2 + 1);
         due("over the turn", x.travels(0, 1), 1);
         due("to the last day", x.travels(0, 2), 1);
@@ -645,7 +605,7 @@ public final class PromisesTest {
 
     private static void most() {
         LivingDays x = new LivingDays();
-        lay(x, "a0..99,a360..389,a720..750");
+        Texts.lay(x, "a0..99,a360..389,a720..750");
         x.home(0, 0, 9, true);
         x.home(1, 0, 9, true);
         x.home(0, 400, 420, true);
@@ -668,7 +628,7 @@ public final class PromisesTest {
 
     private static void tight() {
         LivingDays x = new LivingDays();
-        lay(x, "a5..9,a20..24");
+        Texts.lay(x, "a5..9,a20..24");
         due("most", x.tight(0, 3, 0), 3);
         due("the first such", x.tight(0, 3, 1), 7);
         due("over both", x.tight(0, 16, 0), 6);
@@ -687,7 +647,7 @@ public final class PromisesTest {
 
     private static void rank() {
         LivingDays x = new LivingDays();
-        lay(x, "c0..9,f20..29,b50..54,e400");
+        Texts.lay(x, "c0..9,f20..29,b50..54,e400");
         int[] first = {2, 5, 1, 0, 3, 4};
         int[] second = {4, 0, 1, 2, 3, 5};
         for (int k = 0; k < 6; k++) {
@@ -702,7 +662,7 @@ public final class PromisesTest {
 
     private static void slide() {
         LivingDays x = new LivingDays();
-        lay(x, "a10..14,b15,c20..21");
+        Texts.lay(x, "a10..14,b15,c20..21");
         due("later", x.slide(10, 15, 3), 7);
         dueText("later", x, "a13..17,b18,c20..21");
         due("sooner", x.slide(13, 18, -3), 7);
@@ -725,7 +685,7 @@ public final class PromisesTest {
 
     private static void trade() {
         LivingDays x = new LivingDays();
-        lay(x, "a0..9,b10..19,c20..29");
+        Texts.lay(x, "a0..9,b10..19,c20..29");
         due("trade", x.trade(0, 1, 5, 24), 15);
         dueText("trade", x, "a0..4,b5..9,a10..19,c20..29");
         due("none of both", x.trade(3, 4, 0, 1079), 0);
@@ -744,7 +704,7 @@ public final class PromisesTest {
 
     private static void erase() {
         LivingDays x = new LivingDays();
-        lay(x, "a0..1,b2..3,a4,a6..8,a358..361,a1079");
+        Texts.lay(x, "a0..1,b2..3,a4,a6..8,a358..361,a1079");
         due("two or fewer", x.erase(0, 2), 3);
         dueText("two or fewer", x, "b2..3,a6..8,a358..361");
         due("over the turn of the year", x.erase(0, 3), 1);
@@ -760,11 +720,11 @@ public final class PromisesTest {
 
     private static void routes() {
         LivingDays x = new LivingDays();
-        lay(x, "a0..9,b10..19,a20..29,b30,a350..359,b360..369");
+        Texts.lay(x, "a0..9,b10..19,a20..29,b30,a350..359,b360..369");
         due("a to b", x.routes(0, 1, 0), 2);
         due("b to a", x.routes(1, 0, 0), 1);
         due("over the turn", x.routes(0, 1, 1), 1);
-        lay(x, "c718,d719");
+        Texts.lay(x, "c718,d719");
         due("on the last day of the year", x.routes(2, 3, 1), 1);
         due("to nowhere", x.routes(1, -1, 0), 1);
         due("from nowhere", x.routes(-1, 0, 0), 1);
@@ -782,13 +742,13 @@ public final class PromisesTest {
         due("no rule", x.latest(0, 0), -2);
         x.rule(0, 0, 100);
         due("by days", x.latest(0, 0), 260);
-        lay(x, "a0..49,a350..359");
+        Texts.lay(x, "a0..49,a350..359");
         due("days are there", x.latest(0, 0), 310);
         x.stay(0, 0, 99);
         due("it claims as it is", x.latest(0, 0), 359);
         due("another year", x.latest(0, 1), 620);
         x.stay(-1, 0, 359);
-        lay(x, "a0..49,a300..309");
+        Texts.lay(x, "a0..49,a300..309");
         x.rule(0, 0, 111);
         due("a day that is there already is one", x.latest(0, 0), 299);
         x.rule(0, 0, 360);
@@ -809,7 +769,7 @@ public final class PromisesTest {
     /** Lands 0, 1, 2 claim by a day each in year 0, with 30, 20, 10 days. */
     private static LivingDays three() {
         LivingDays x = new LivingDays();
-        lay(x, "a0..29,b30..49,c50..59");
+        Texts.lay(x, "a0..29,b30..49,c50..59");
         for (int land = 0; land < 3; land++) {
             x.rule(land, 0, 1);
         }
@@ -823,7 +783,7 @@ public final class PromisesTest {
         due("the fewest", x.wins(2, 0), 0);
         due("does not claim", x.wins(3, 0), -2);
         due("does not claim in it", x.wins(0, 1), -2);
-        setOrder(x, 2, "n");
+        Texts.setOrder(x, 2, "n");
         x.nation(2, true);
         due("one of both is not enough", x.wins(0, 0), 1);
         due("one of both is not enough", x.wins(2, 0), 0);
@@ -835,7 +795,7 @@ public final class PromisesTest {
     private static void partner() {
         LivingDays x = new LivingDays();
         due("nowhere", x.partner(), 0);
-        lay(x, "a0..9,b10..19,a30");
+        Texts.lay(x, "a0..9,b10..19,a30");
         due("stays", x.partner(), 3);
         due("both", x.together(0, 0), 21);
         x.stay(2, 0, 1079);
@@ -848,9 +808,9 @@ public final class PromisesTest {
         LivingDays x = new LivingDays();
         due("no partner", x.together(0, 0), -2);
         due("no such year comes first", x.together(3, 0), -1);
-        lay(x, "a0..9,b10..19,c355..364");
+        Texts.lay(x, "a0..9,b10..19,c355..364");
         x.partner();
-        lay(x, "d5,a15..17,f400");
+        Texts.lay(x, "d5,a15..17,f400");
         due("how many", x.together(0, 0), 9 + 7 + 5);
         due("the longest row, over lands", x.together(0, 1), 9);
         due("lands", x.together(0, 2), 7);
@@ -866,7 +826,7 @@ public final class PromisesTest {
 
     private static void claims() {
         LivingDays x = new LivingDays();
-        lay(x, "a0..29,b30..60,f360..390");
+        Texts.lay(x, "a0..29,b30..60,f360..390");
         due("no rule", x.claims(0), 0);
         x.rule(0, 0, 30);
         x.rule(1, 1, 31);
@@ -885,7 +845,7 @@ public final class PromisesTest {
 
     private static void holds() {
         LivingDays x = new LivingDays();
-        lay(x, "a0..99,a360..419,a720..749,b720..750");
+        Texts.lay(x, "a0..99,a360..419,a720..749,b720..750");
         due("no rule", x.holds(0, 0), 0);
         x.rule(0, 0, 60);
         x.rule(0, 1, 93);
@@ -924,10 +884,10 @@ public final class PromisesTest {
         due("by the centre", x.answers(0, 1, 0), 1);
         x.home(0, 0, 0, true);
         due("by home", x.answers(1, 0, 0), 0);
-        setOrder(x, 1, "nc");
+        Texts.setOrder(x, 1, "nc");
         due("in its own order", x.answers(1, 0, 0), 1);
         due("the other by its own", x.answers(0, 1, 0), 0);
-        setOrder(x, 1, "n");
+        Texts.setOrder(x, 1, "n");
         due("its order tells nobody", x.answers(1, 0, 0), -2);
         due("another year", x.answers(0, 1, 1), -2);
         x.home(4, 720, 729, true);
@@ -955,9 +915,9 @@ public final class PromisesTest {
         due("centre", x.by(0, 1, 0), 1);
         x.home(0, 0, 0, true);
         due("home", x.by(0, 1, 0), 0);
-        setOrder(x, 1, "ch");
+        Texts.setOrder(x, 1, "ch");
         due("its own order", x.by(1, 0, 0), 0);
-        setTreaty(x, 0, 1, "nd");
+        Texts.setTreaty(x, 0, 1, "nd");
         due("by the treaty", x.by(1, 0, 0), 0);
         x.nation(1, false);
         due("by the treaty", x.by(0, 1, 0), 1);
@@ -974,14 +934,14 @@ public final class PromisesTest {
         x.stay(5, 400, 400);
         x.rule(5, 0, 1);
         due("just one", x.lives(1), 5);
-        setOrder(x, 2, "n");
+        Texts.setOrder(x, 2, "n");
         due("one answers nobody", x.lives(0), -2);
         x.rule(2, 0, 0);
         due("it claims no more", x.lives(0), 0);
         // a beats b by homes, b beats c by days, c beats a by nation: a ring
         x = three();
         x.nation(2, true);
-        setTreaty(x, 0, 2, "n");
+        Texts.setTreaty(x, 0, 2, "n");
         due("a ring has none", x.lives(0), -2);
         due("year 3", x.lives(3), -1);
         due("year -1", x.lives(-1), -1);
@@ -992,10 +952,10 @@ public final class PromisesTest {
         due("all", x.pairs(0, 0), 3);
         due("all agree", x.pairs(0, 1), 0);
         due("none nobody", x.pairs(0, 2), 0);
-        setOrder(x, 2, "n");
+        Texts.setOrder(x, 2, "n");
         due("of c two do not agree", x.pairs(0, 1), 2);
         due("only one says nobody", x.pairs(0, 2), 0);
-        setTreaty(x, 0, 2, "");
+        Texts.setTreaty(x, 0, 2, "");
         due("both say nobody: they agree", x.pairs(0, 1), 1);
         due("nobody", x.pairs(0, 2), 1);
         due("none claims", x.pairs(1, 0), 0);
@@ -1006,7 +966,7 @@ public final class PromisesTest {
 
     private static void split() {
         LivingDays x = new LivingDays();
-        lay(x, "a100..199,a400..500,b720..740");
+        Texts.lay(x, "a100..199,a400..500,b720..740");
         x.rule(0, 0, 50);
         due("does not claim", x.split(0, 2, 0), -2);
         due("from", x.split(0, 0, 0), 100);
@@ -1023,7 +983,7 @@ public final class PromisesTest {
         x.rule(1, 0, 1);
         due("from a day", x.split(1, 2, 0), 720);
         LivingDays y = new LivingDays();
-        lay(y, "a100..199,a360..369,a800..899");
+        Texts.lay(y, "a100..199,a360..369,a800..899");
         y.rule(0, 0, 50);
         due("it claims in no year behind", y.split(0, 0, 1), 199);
         due("it claimed in no year ahead", y.split(0, 2, 0), 800);
@@ -1042,7 +1002,7 @@ public final class PromisesTest {
 
     private static void owed() {
         LivingDays x = new LivingDays();
-        lay(x, "a100..199,b200..209,a210..220,b300..309");
+        Texts.lay(x, "a100..199,b200..209,a210..220,b300..309");
         x.tax(0, 10);
         x.tax(1, 60);
         due("where one is", x.owed(0), 111 * 10 + 20 * 60);
@@ -1072,7 +1032,7 @@ public final class PromisesTest {
         x.window(0, 10, 0);
         due("m 0", x.free(0, 10, 10), 0);
         x.stay(-1, 0, 1079);
-        lay(x, "a3..5,a12..14");
+        Texts.lay(x, "a3..5,a12..14");
         x.window(0, 4, 3);
         // 0 goes (0, 3, .), 1 and 2: 1 makes 0 to 3 three, 2 would make 2 to 5 four
         due("a window of four", x.free(0, 0, 6), 5);
@@ -1199,7 +1159,7 @@ public final class PromisesTest {
 
     private static void moved() {
         LivingDays x = new LivingDays();
-        lay(x, "a0..9,b10..20");
+        Texts.lay(x, "a0..9,b10..20");
         x.rule(0, 0, 10);
         x.rule(1, 0, 10);
         due("now", x.lives(0), 1);
@@ -1220,7 +1180,7 @@ public final class PromisesTest {
         LivingDays x = new LivingDays();
         due("nothing claims", x.loose(0, 0), 0);
         due("none", x.loose(0, 1), -2);
-        lay(x, "a0..9,b20..29");
+        Texts.lay(x, "a0..9,b20..29");
         x.rule(0, 0, 10);
         // days of a alone: one fewer, and none claims
         due("the days of a", x.loose(0, 0), 10);
@@ -1259,7 +1219,7 @@ public final class PromisesTest {
 
     private static void instead() {
         LivingDays x = new LivingDays();
-        lay(x, "a0..49,b50..79,a360..379");
+        Texts.lay(x, "a0..49,b50..79,a360..379");
         x.rule(0, 0, 20);
         x.rule(1, 0, 20);
         x.tax(0, 10);
@@ -1290,22 +1250,22 @@ public final class PromisesTest {
 
     private static void trip() {
         LivingDays x = new LivingDays();
-        lay(x, "a0..49,b50..79,a360..379");
+        Texts.lay(x, "a0..49,b50..79,a360..379");
         x.rule(0, 0, 20);
         x.rule(1, 0, 20);
         x.tax(0, 10);
         x.tax(1, 20);
         x.window(1, 60, 40);
-        due("lives", plan(x, "b0..20", 0), 1);
+        due("lives", Texts.plan(x, "b0..20", 0), 1);
         due("tape is empty", x.count(4), 0);
-        due("lives in year 1", plan(x, "b0..20", 1), 0);
-        due("lives in year 2", plan(x, "b0..20", 2), -2);
+        due("lives in year 1", Texts.plan(x, "b0..20", 1), 0);
+        due("lives in year 2", Texts.plan(x, "b0..20", 2), -2);
         // b has 51 of year 0, FROM 0 TILL 79 (a claims, too: 29 days)
-        due("owed", plan(x, "b0..20", 3), 80 * 20 + 20 * 10);
-        due("overstays", plan(x, "b 0 .. 49", 4), 40);
-        due("a fault", plan(x, "b0..x", 0), -1004);
+        due("owed", Texts.plan(x, "b0..20", 3), 80 * 20 + 20 * 10);
+        due("overstays", Texts.plan(x, "b 0 .. 49", 4), 40);
+        due("a fault", Texts.plan(x, "b0..x", 0), -1004);
         due("tape is empty behind a fault", x.count(4), 0);
-        feedText(x, "b0..20");
+        Texts.feed(x, "b0..20");
         due("n 0", x.trip(0, 0), -1);
         due("n 161", x.trip(161, 0), -1);
         due("n above the tape", x.trip(21, 0), -1);
@@ -1321,7 +1281,7 @@ public final class PromisesTest {
         for (int land = 0; land < 6; land++) {
             x.tax(land, 50 - land % 4);
         }
-        lay(x, "a0..99");
+        Texts.lay(x, "a0..99");
         due("the least", x.cheapest(200, 209, 0), 3);
         due("how much", x.cheapest(200, 209, 1), 100 * 50 + 10 * 47);
         due("over a", x.cheapest(0, 99, 1), 100 * 47);
@@ -1339,7 +1299,7 @@ public final class PromisesTest {
 
     private static void count() {
         LivingDays x = new LivingDays();
-        lay(x, "a0..9,b10..19,a30");
+        Texts.lay(x, "a0..9,b10..19,a30");
         x.nation(0, true);
         x.nation(3, true);
         x.window(0, 5, 3);
@@ -1359,14 +1319,14 @@ public final class PromisesTest {
     private static void keepAndUndo() {
         LivingDays x = new LivingDays();
         due("none is kept", x.undo(), -1);
-        lay(x, "a0..9");
+        Texts.lay(x, "a0..9");
         x.home(1, 0, 9, true);
         x.centre(2, 0, 9);
         x.nation(3, true);
         x.window(4, 30, 20);
         x.rule(4, 1, 50);
-        setOrder(x, 4, "dn");
-        setTreaty(x, 4, 5, "");
+        Texts.setOrder(x, 4, "dn");
+        Texts.setTreaty(x, 4, 5, "");
         x.tax(4, 7);
         x.entries(4, 8);
         due("keep", x.keep(), 1);
@@ -1378,7 +1338,7 @@ public final class PromisesTest {
         x.nation(3, false);
         x.window(4, 0, 0);
         x.rule(4, 1, 0);
-        setOrder(x, 4, "h");
+        Texts.setOrder(x, 4, "h");
         x.without(4, 5);
         x.tax(4, 0);
         x.entries(4, 0);
