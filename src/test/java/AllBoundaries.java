@@ -101,6 +101,8 @@ final class AllBoundaries {
         x.centre(3, 0, 1079);
         x.treaty(0, 1, 0);
         x.without(0, 2);
+        x.without(4, 5);
+        x.treaty(2, 3, 0);
         x.partner();
         b.due("the tape was emptied in between", x.count(4), 0);
         x.feed(0, 0, 0, 0, 0);
@@ -142,6 +144,14 @@ final class AllBoundaries {
         x.stay(3, 0, 0);
         b.due("that state is gone", x.undo(), -1);
         b.due("all stays then", x.at(0, 0), 3);
+        x = new LivingDays();
+        x.keep();
+        x.partner();
+        x.keep();
+        x.undo();
+        b.due("the partner is as it was", x.together(0, 0), 0);
+        x.undo();
+        b.due("no partner is as it was", x.together(0, 0), -2);
         b.sentence(60, "how many are left");
         x = full(b);
         for (int k = 7; k >= 0; k--) {

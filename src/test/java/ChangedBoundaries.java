@@ -15,14 +15,8 @@ final class ChangedBoundaries {
         wins(b);
     }
 
-    private static LivingDays told(String text) {
-        LivingDays x = new LivingDays();
-        Texts.lay(x, text);
-        return x;
-    }
-
     private static void dueSlide(Boundaries b, String told, int[] n, int want, String text) {
-        LivingDays x = told(told);
+        LivingDays x = Texts.told(told);
         b.due(Boundaries.shown("slide", n) + " of " + told, x.slide(n[0], n[1], n[2]), want);
         b.text(Boundaries.shown("slide", n) + " of " + told, x, text);
     }
@@ -64,7 +58,7 @@ final class ChangedBoundaries {
     private static void trade(Boundaries b) {
         b.sentence(31, "On DAYS from, to and in between one is in LAND b where one was in a, and in a where one "
             + "was in b");
-        LivingDays x = told("a0..1,f2..3,c4,a1078,f1079");
+        LivingDays x = Texts.told("a0..1,f2..3,c4,a1078,f1079");
         x.trade(0, 5, 0, 1079);
         b.text("all days", x, "f0..1,a2..3,c4,f1078,a1079");
         x.trade(5, 0, 1, 2);
@@ -93,23 +87,23 @@ final class ChangedBoundaries {
 
     private static void erase(Boundaries b) {
         b.sentence(32, "On the DAYS of each STAY in a LAND (as of nth()) of n DAYS or fewer (1 to 360) one is nowhere");
-        LivingDays x = told("a0,b1,a2..3,a358..361,f400,a1078..1079");
+        LivingDays x = Texts.told("a0,b1,a2..3,a358..361,f400,a1078..1079");
         x.erase(0, 1);
         b.text("n 1", x, "b1,a2..3,a358..361,f400,a1078..1079");
         x.erase(0, 3);
         b.text("n 3, over the turn of the year there are four", x, "b1,a358..361,f400");
         x.erase(0, 4);
         b.text("n 4", x, "b1,f400");
-        x = told("a0..359,a400..760");
+        x = Texts.told("a0..359,a400..760");
         x.erase(0, 360);
         b.text("n 360", x, "a400..760");
-        x = told("a0,f1,a2,f3");
+        x = Texts.told("a0,f1,a2,f3");
         x.erase(0, 360);
         b.text("one erased stay does not join others", x, "f1,f3");
         b.sentence(32, "how many such STAYS there were");
         b.due("none", x.erase(0, 360), 0);
         b.due("two", x.erase(5, 1), 2);
-        x = told("a0..1,a3..5,a7..10");
+        x = Texts.told("a0..1,a3..5,a7..10");
         b.due("too long ones", x.erase(0, 1), 0);
         b.due("one of three", x.erase(0, 2), 1);
         b.due("the two others", x.erase(0, 4), 2);
@@ -125,7 +119,7 @@ final class ChangedBoundaries {
     private static void routes(Boundaries b) {
         b.sentence(33, "On how many DAYS of a YEAR one is in LAND b and was in LAND a on the DAY ahead (either "
             + "NONE: nowhere; DAY 0 has none ahead)");
-        LivingDays x = told("f0..9,a10..19,f20,a358..359,f360,a1078,f1079");
+        LivingDays x = Texts.told("f0..9,a10..19,f20,a358..359,f360,a1078,f1079");
         b.due("f to a", x.routes(5, 0, 0), 1);
         b.due("a to f", x.routes(0, 5, 0), 1);
         b.due("over the turn: of the year behind", x.routes(0, 5, 1), 1);
@@ -171,6 +165,11 @@ final class ChangedBoundaries {
         b.due("a day there at the end is one of them", x.latest(5, 1), 370);
         x.stay(5, 360, 719);
         b.due("it claims as it is", x.latest(5, 1), 719);
+        x.stay(5, 350, 359);
+        x.rule(5, 0, 11);
+        b.due("days there are no more by being there", x.latest(5, 0), 349);
+        x.rule(5, 0, 10);
+        b.due("as many as are there", x.latest(5, 0), 359);
         x.rule(4, 1, 31);
         b.due("by the mean", x.latest(4, 0), 329);
         x.rule(4, 1, 1);
@@ -191,7 +190,7 @@ final class ChangedBoundaries {
 
     private static void wins(Boundaries b) {
         b.sentence(35, "Against how many others that CLAIM one in a YEAR a LAND that CLAIMS has an ANSWER of both");
-        LivingDays x = told("a0..5,b6..10,c11..14,d15..17,e18..19,f20");
+        LivingDays x = Texts.told("a0..5,b6..10,c11..14,d15..17,e18..19,f20");
         x.rule(0, 0, 1);
         b.due("no others", x.wins(0, 0), 0);
         for (int land = 1; land < 6; land++) {

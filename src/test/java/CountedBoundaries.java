@@ -243,6 +243,11 @@ final class CountedBoundaries {
         b.due("the first day of the year", x.travels(0, 1), 1);
         x.stay(0, 358, 361);
         b.due("over the turn of the year", x.travels(0, 1), 1);
+        x = new LivingDays();
+        x.stay(0, 1, 3);
+        x.stay(0, 1076, 1078);
+        b.due("from day 1 on", x.travels(0, 0), 2);
+        b.due("to day 1078", x.travels(0, 2), 2);
         b.sentence(26, "(but for what is ahead of DAY 0, behind DAY 1079)");
         x = new LivingDays();
         x.stay(5, 0, 1079);
@@ -298,6 +303,12 @@ final class CountedBoundaries {
         dueMost(b, x, 2, 2, 1);
         x.stay(-1, 360, 719);
         dueMost(b, x, 2, 1, 0);
+        Texts.lay(x, "-0..1079,a357..719");
+        dueMost(b, x, 1, 1, 360);
+        x.stay(-1, 719, 719);
+        dueMost(b, x, 1, 1, 360);
+        x.stay(-1, 357, 357);
+        dueMost(b, x, 1, 1, 359);
         x.stay(0, 0, 1079);
         for (int year = 0; year < 3; year++) {
             dueMost(b, x, 0, year, 360);

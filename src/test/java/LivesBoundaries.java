@@ -16,15 +16,9 @@ final class LivesBoundaries {
         owed(b);
     }
 
-    private static LivingDays told(String text) {
-        LivingDays x = new LivingDays();
-        Texts.lay(x, text);
-        return x;
-    }
-
     private static void partner(Boundaries b) {
         b.sentence(36, "THE PARTNER is from now on where one is now on each DAY (whatever is told later)");
-        LivingDays x = told("a0,b1079");
+        LivingDays x = Texts.told("a0,b1079");
         x.partner();
         b.due("on the first day", x.together(0, 0), 1);
         b.due("on the last day", x.together(2, 0), 1);
@@ -53,7 +47,7 @@ final class LivesBoundaries {
 
     private static void together(Boundaries b) {
         b.sentence(37, "DAYS of a YEAR on which both are in one LAND, what 0 how many");
-        LivingDays x = told("a0..359,f360..719");
+        LivingDays x = Texts.told("a0..359,f360..719");
         x.partner();
         b.due("all", x.together(0, 0), 360);
         b.due("both nowhere", x.together(2, 0), 0);
@@ -100,7 +94,7 @@ final class LivesBoundaries {
 
     private static void claims(Boundaries b) {
         b.sentence(38, "LANDS that CLAIM one in a YEAR (bits)");
-        LivingDays x = told("a0,b1,c2,d3,e4,f5,a719,f1079");
+        LivingDays x = Texts.told("a0,b1,c2,d3,e4,f5,a719,f1079");
         b.due("none", x.claims(0), 0);
         x.rule(0, 0, 1);
         b.due("land 0", x.claims(0), 1);
@@ -118,7 +112,7 @@ final class LivesBoundaries {
 
     private static void holds(Boundaries b) {
         b.sentence(39, "Which RULES of a LAND hold in a YEAR (bits by sorts)");
-        LivingDays x = told("f1049..1079");
+        LivingDays x = Texts.told("f1049..1079");
         x.home(5, 1079, 1079, true);
         b.due("none is told", x.holds(5, 2), 0);
         x.rule(5, 0, 31);
@@ -141,7 +135,7 @@ final class LivesBoundaries {
 
     private static void answers(Boundaries b) {
         b.sentence(40, "What LAND a ANSWERS against LAND b in a YEAR: the LAND");
-        LivingDays x = told("a0,f1079");
+        LivingDays x = Texts.told("a0,f1079");
         b.due("a in year 0", x.answers(0, 5, 0), 0);
         b.due("the same, asked of b", x.answers(5, 0, 0), 0);
         b.due("b in year 2", x.answers(0, 5, 2), 5);
@@ -159,7 +153,7 @@ final class LivesBoundaries {
 
     private static void by(Boundaries b) {
         b.sentence(41, "By the how-manieth letter of the ORDER of a (or of their TREATY; from 0) it ANSWERS");
-        LivingDays x = told("a0");
+        LivingDays x = Texts.told("a0");
         String[] rows = {"d", "hd", "hcd", "hcnd", "dhcn"};
         int[] places = {0, 1, 2, 3, 0};
         for (int k = 0; k < rows.length; k++) {
@@ -176,6 +170,11 @@ final class LivesBoundaries {
         b.due("the treaty does not tell", x.by(0, 5, 0), -2);
         Texts.setTreaty(x, 0, 5, "");
         b.due("the treaty is empty", x.by(5, 0, 0), -2);
+        x.home(0, 0, 0, true);
+        b.due("h is no letter of an empty treaty", x.by(5, 0, 0), -2);
+        Texts.setTreaty(x, 0, 5, "cn");
+        b.due("h is no letter of it", x.by(5, 0, 0), -2);
+        b.due("nobody by it", x.answers(5, 0, 0), -2);
         b.leaves("two of which nothing is told", -2, y -> y.by(3, 4, 0));
         b.sentence(41, "NONE likewise");
         b.bounds("by", -1, (y, n) -> y.by(n[0], n[1], n[2]), Boundaries.n(2, 3, 1), Boundaries.n(0, 0, 5),
@@ -193,7 +192,7 @@ final class LivesBoundaries {
 
     private static void lives(Boundaries b) {
         b.sentence(42, "LIVES in a YEAR: the LAND");
-        LivingDays x = told("a0..9,f10..18,f720,a721");
+        LivingDays x = Texts.told("a0..9,f10..18,f720,a721");
         x.rule(5, 0, 1);
         b.due("land 5", x.lives(0), 5);
         x.rule(0, 0, 1);
@@ -211,7 +210,7 @@ final class LivesBoundaries {
 
     private static void pairs(Boundaries b) {
         b.sentence(43, "Pairs of LANDS that CLAIM one in a YEAR, what 0 all");
-        LivingDays x = told("a0,b1,c2,d3,e4,f5");
+        LivingDays x = Texts.told("a0,b1,c2,d3,e4,f5");
         b.due("none claims", x.pairs(0, 0), 0);
         int[] all = {0, 1, 3, 6, 10, 15};
         for (int land = 0; land < 6; land++) {
@@ -223,6 +222,8 @@ final class LivesBoundaries {
         b.due("all say nobody", x.pairs(0, 1), 0);
         x.nation(5, true);
         b.due("all say 5 or nobody", x.pairs(0, 1), 0);
+        b.due("all are pairs, whatever they say", x.pairs(0, 0), 15);
+        b.due("those of 5 do not say nobody", x.pairs(0, 2), 10);
         Texts.setOrder(x, 5, "");
         b.due("5 says nobody", x.pairs(0, 1), 5);
         for (int land = 0; land < 6; land++) {
@@ -246,7 +247,7 @@ final class LivesBoundaries {
 
     private static void split(Boundaries b) {
         b.sentence(44, "SPLIT of a LAND in a YEAR, what 0 FROM, 1 TILL");
-        LivingDays x = told("f10..20,f30..40,f1070..1079");
+        LivingDays x = Texts.told("f10..20,f30..40,f1070..1079");
         x.rule(5, 0, 10);
         b.due("from", x.split(5, 0, 0), 10);
         b.due("till", x.split(5, 0, 1), 40);
@@ -279,7 +280,7 @@ final class LivesBoundaries {
 
     private static void owed(Boundaries b) {
         b.sentence(45, "OWED in a YEAR");
-        LivingDays x = told("a0..359,f720..1079");
+        LivingDays x = Texts.told("a0..359,f720..1079");
         b.due("no tax", x.owed(0), 0);
         x.tax(0, 60);
         x.tax(5, 1);

@@ -19,6 +19,13 @@ final class Texts {
         return x.calendar(text.length());
     }
 
+    /** A new object with one text laid over it. */
+    static LivingDays told(String text) {
+        LivingDays x = new LivingDays();
+        lay(x, text);
+        return x;
+    }
+
     static int plan(LivingDays x, String text, int what) {
         feed(x, text);
         return x.trip(text.length(), what);

@@ -18,12 +18,6 @@ final class WouldBeBoundaries {
         cheapest(b);
     }
 
-    private static LivingDays told(String text) {
-        LivingDays x = new LivingDays();
-        Texts.lay(x, text);
-        return x;
-    }
-
     private static void free(Boundaries b) {
         b.sentence(46, "FREE in n DAYS (1 to 360) from DAY d on");
         LivingDays x = new LivingDays();
@@ -117,7 +111,8 @@ final class WouldBeBoundaries {
         x.stay(5, 355, 359);
         b.due("days behind as they are", x.claimBy(5, 0), 4);
         b.due("some of them come on the way", x.claimBy(5, 352), 369);
-        b.due("it claims as it is", told(x, "f0..9").claimBy(5, 100), 100);
+        x.stay(5, 0, 9);
+        b.due("it claims as it is", x.claimBy(5, 100), 100);
         x = new LivingDays();
         x.rule(5, 1, 40);
         b.due("by the mean with the year ahead: 30 and 31", x.claimBy(5, 330), 390);
@@ -135,11 +130,6 @@ final class WouldBeBoundaries {
         b.sentence(49, "NONE: no such ones");
         b.bounds("claimBy", -1, (y, n) -> y.claimBy(n[0], n[1]), Boundaries.n(0, 5), Boundaries.n(0, 0, 5),
             Boundaries.n(1, 0, 1079));
-    }
-
-    private static LivingDays told(LivingDays x, String text) {
-        Texts.lay(x, text);
-        return x;
     }
 
     private static void freest(Boundaries b) {
@@ -209,7 +199,7 @@ final class WouldBeBoundaries {
 
     private static void moved(Boundaries b) {
         b.sentence(52, "LIVES in the YEAR of a DAY, were one on it in a LAND (NONE: nowhere): the LAND");
-        LivingDays x = told("a0..9,f350..359,f360,f1079");
+        LivingDays x = Texts.told("a0..9,f350..359,f360,f1079");
         x.rule(0, 0, 1);
         x.rule(5, 0, 1);
         b.due("like days; day 0 to f", x.moved(0, 5), 5);
@@ -234,19 +224,19 @@ final class WouldBeBoundaries {
     private static void loose(Boundaries b) {
         b.sentence(53, "On how many DAYS of a YEAR there is a LAND, or nowhere, where being on that DAY alone "
             + "would change LIVES in the YEAR, what 0 how many");
-        LivingDays x = told("f720..1079");
+        LivingDays x = Texts.told("f720..1079");
         x.rule(5, 0, 360);
         b.due("each day is needed", x.loose(2, 0), 360);
         x.rule(5, 0, 359);
         b.due("none is", x.loose(2, 0), 0);
         x.rule(5, 0, 0);
         b.due("none claims", x.loose(2, 0), 0);
-        x = told("a359");
+        x = Texts.told("a359");
         x.rule(0, 0, 1);
         b.due("the one day alone", x.loose(0, 0), 1);
         x.rule(0, 0, 2);
         b.due("each other day", x.loose(0, 0), 359);
-        x = told("a0..1,f2..3,c4");
+        x = Texts.told("a0..1,f2..3,c4");
         x.rule(0, 0, 2);
         x.rule(5, 0, 2);
         b.due("like days: any day changes it", x.loose(0, 0), 360);
@@ -256,7 +246,7 @@ final class WouldBeBoundaries {
         b.sentence(53, "1 the first (-2: none)");
         b.due("the first of a", x.loose(0, 1), 0);
         b.due("none", x.loose(1, 1), -2);
-        x = told("a359..360,a1079");
+        x = Texts.told("a359..360,a1079");
         x.rule(0, 0, 1);
         b.due("the last day of year 0", x.loose(0, 1), 359);
         b.due("the first day of year 1", x.loose(1, 1), 360);
@@ -309,7 +299,7 @@ final class WouldBeBoundaries {
     private static void instead(Boundaries b) {
         b.sentence(55, "Were all DAYS in LAND a from a DAY to a DAY in LAND b (NONE: nowhere): LIVES in a YEAR "
             + "(what 0 to 2)");
-        LivingDays x = told("a0..9,f10..18,a360..369,a1079");
+        LivingDays x = Texts.told("a0..9,f10..18,a360..369,a1079");
         x.rule(0, 0, 1);
         x.rule(5, 0, 1);
         b.due("as it is", x.instead(3, 4, 0, 1079, 0), 0);
@@ -354,7 +344,7 @@ final class WouldBeBoundaries {
     private static void trip(Boundaries b) {
         b.sentence(56, "A CALENDAR by the tape's first n bytes (1 to 160; empty then), laid over as if it were "
             + "told, what as of instead()");
-        LivingDays x = told("a0..9,f360");
+        LivingDays x = Texts.told("a0..9,f360");
         x.rule(0, 0, 1);
         x.rule(5, 0, 1);
         x.tax(0, 10);
@@ -417,6 +407,15 @@ final class WouldBeBoundaries {
         x.rule(4, 0, 1);
         x.home(4, 720, 720, true);
         b.due("where one would live it is dearer", x.cheapest(1079, 1079, 0), 5);
+        LivingDays home = new LivingDays();
+        home.tax(0, 10);
+        for (int land = 1; land < 6; land++) {
+            home.tax(land, 60);
+        }
+        home.rule(0, 2, 1);
+        home.home(0, 0, 359, true);
+        b.due("where one would live by a home it is dearer", home.cheapest(0, 0, 0), 1);
+        b.due("in a year without a home it is not", home.cheapest(360, 360, 0), 0);
         b.sentence(57, "1 that");
         b.due("the last day", x.cheapest(1079, 1079, 1), 59);
         b.due("the first day", x.cheapest(0, 0, 1), 59);
